@@ -21,7 +21,7 @@ public final class FieldHouse {
   private static final int MOST_PRIME = 97;
   private static final int MOST_POWER = 12;
 
-  /** Far above the steps that Euclid's way needs for any two longs. */
+  /** Far above the steps of every loop that ends by itself: Euclid's way, going to reduced forms, small roots. */
   private static final int MANY_STEPS = 1000;
 
   private final int[] refusals = new int[7];
@@ -1197,16 +1197,12 @@ public final class FieldHouse {
       } else if (squareHasP) {
         exponents[0] = 3;
       } else {
-        addRest(p);
+        // What is left of p beside a lone prime of degree 1 is a prime of degree 2; the third place is free to hold p.
+        works.made.startMultiples(3, p);
+        System.arraycopy(works.made.rows, 0, rows, 18, 9);
+        works.makeQuotient(rows, 18, rows, 0);
+        keepMade(1, 2);
       }
-    }
-
-    /** What is left of p beside a lone prime of degree 1 is a prime of degree 2. */
-    private void addRest(int p) {
-      works.made.startMultiples(3, p);
-      System.arraycopy(works.made.rows, 0, rows, 18, 9);
-      works.makeQuotient(rows, 18, rows, 0);
-      keepMade(1, 2);
     }
 
     boolean isPrimeIdeal(long[] ideal, int at) {
@@ -1442,7 +1438,7 @@ public final class FieldHouse {
     }
   }
 
-  /** The first unit of a field of degree 2 with real roots, by the continued fraction of (0 or 1 + root of disc) by 2. */
+  /** The first unit for degree 2 and real roots, by the continued fraction of (0 or 1, and the root of disc) by 2. */
   private static final class FirstUnit {
     private static final long MOST = 1000000000000000L;
 
