@@ -1137,7 +1137,6 @@ public final class FieldHouse {
       values[0] = 1;
       for (int u = 0; u < p; u++) {
         values[1] = rest(-u, p);
-        values[2] = 0;
         if (ring.degree == 2) {
           keepIfTrue(p, u, 0);
         } else if (rest(((values[1] - trace) * values[1] + middle) * values[1] - norm, p) == 0) {

@@ -168,6 +168,9 @@ public final class IdealTest {
     due.is("it is prime", x.idealOf(x.ideal(90001, 1), 2), 1);
     x.element(3, 4, 0);
     due.is("the square of a prime", x.idealOf(x.ideal(25, 2), 2), 0);
+    FieldHouse root = Due.square(0, 5);
+    root.element(0, 0, 0);
+    due.is("5 is not prime where w1 w1 is -5", root.idealOf(root.ideal(5, 0), 2), 0);
     FieldHouse y = Due.cube(0, 0, -2);
     y.element(0, 0, 0);
     y.element(0, 1, 0);
