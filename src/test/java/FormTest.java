@@ -120,7 +120,7 @@ public final class FormTest {
   /** Every reduced form of every discriminant, found by trying all, in order; and how many cycles they make. */
   private static void lists() {
     Set<Long> seen = new HashSet<>();
-    for (int a = 0; a <= 1; a++) {
+    for (int a = 0; a <= 20; a++) {
       for (int b = -200; b <= 200; b++) {
         FieldHouse x = new FieldHouse();
         if (x.square(a, b) == 1 && seen.add(x.disc(0))) {
