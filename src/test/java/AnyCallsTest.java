@@ -17,13 +17,15 @@ public final class AnyCallsTest {
     Random random = new Random(seed);
     FieldHouse x = new FieldHouse();
     int[] refused = new int[7];
+    int[] counts = new int[2];
     long all = 0;
     for (int call = 0; call < 500; call++) {
       int which = call < 2 && seed % 9 > 0 ? random.nextInt(2) : random.nextInt(27);
       if (which < 2 && random.nextInt(4) > 0 && call > 2) {
         which = 7 + random.nextInt(20);
       }
-      long answer = answer(x, which, random);
+      long answer = answer(x, which, random, counts);
+      follow(which, answer, counts);
       int code = code(which, answer);
       if (code < 0) {
         refused[-code]++;
@@ -33,8 +35,25 @@ public final class AnyCallsTest {
     for (int i = 1; i <= 6; i++) {
       due.is("run " + seed + ": count(" + (10 + i) + ")", x.count(10 + i), refused[i]);
     }
-    due.holds("run " + seed + ": room", x.count(0) <= 100 && x.count(1) <= 80);
+    due.is("run " + seed + ": elements", x.count(0), counts[0]);
+    due.is("run " + seed + ": ideals", x.count(1), counts[1]);
+    due.holds("run " + seed + ": room", counts[0] <= 100 && counts[1] <= 80);
     return all;
+  }
+
+  /** How many elements and ideals there are after the call, so that the house need not be asked. */
+  private static void follow(int which, long answer, int[] counts) {
+    if (answer < 0) {
+      return;
+    }
+    if (which < 2) {
+      counts[0] = 0;
+      counts[1] = 0;
+    } else if (which == 6 || which == 7) {
+      counts[0]++;
+    } else if (which == 11 || which == 12 || which == 19) {
+      counts[1]++;
+    }
   }
 
   private static int code(int which, long answer) {
@@ -66,9 +85,9 @@ public final class AnyCallsTest {
     return random.nextInt(8) == 0 ? any(random, 100) : Due.PRIME_NUMBERS[random.nextInt(random.nextInt(25) + 1)];
   }
 
-  private static long answer(FieldHouse x, int which, Random r) {
-    int e = x.count(0);
-    int i = x.count(1);
+  private static long answer(FieldHouse x, int which, Random r, int[] counts) {
+    int e = counts[0];
+    int i = counts[1];
     switch (which) {
       case 0: return x.square(around(r, 20), around(r, 200));
       case 1: return x.cube(around(r, 3), around(r, 9), around(r, 9));

@@ -1,4 +1,6 @@
 import java.math.BigInteger;
+import java.util.ArrayList;
+import java.util.List;
 import java.util.Random;
 
 /** Promises 8 to 12: element, make, coordinate, norm, unit. */
@@ -176,27 +178,69 @@ public final class ElementTest {
       made = cubic ? x.cube(random.nextInt(7) - 3, random.nextInt(19) - 9, random.nextInt(19) - 9)
           : x.square(random.nextInt(41) - 20, random.nextInt(401) - 200);
     }
-    int n = x.field(0);
+    Seen seen = new Seen(x);
     int[] bound = {2, 2, 2, 10, 10, 300, 300, 300};
     for (int most : bound) {
       x.element(random.nextInt(2 * most + 1) - most, random.nextInt(2 * most + 1) - most,
-          n == 2 ? 0 : random.nextInt(2 * most + 1) - most);
+          seen.n == 2 ? 0 : random.nextInt(2 * most + 1) - most);
+      seen.read();
     }
     for (int i = 0; i < 8; i++) {
-      BigInteger[][] m = matrix(x, i, n);
-      due.is("norm " + i, x.norm(i, 0), determinant(m).longValueExact());
-      due.is("trace " + i, x.norm(i, 1), trace(m).longValueExact());
-      BigInteger middle = n == 2 ? trace(m).negate()
-          : trace(m).multiply(trace(m)).subtract(trace(times(m, m))).shiftRight(1);
-      due.is("middle " + i, x.norm(i, 2), middle.longValueExact());
-      due.is("unit " + i, x.unit(i), unitBy(m));
+      lawOfNorms(seen, i);
     }
-    for (int t = 0; t < 30; t++) {
-      int i = random.nextInt(x.count(0));
-      int j = random.nextInt(x.count(0));
-      int how = random.nextInt(4);
-      lawOfMake(x, n, how, i, j);
+    for (int t = 0; t < 40; t++) {
+      lawOfMake(seen, random.nextInt(4), random.nextInt(seen.coordinates.size()),
+          random.nextInt(seen.coordinates.size()));
     }
+  }
+
+  /** A house's table and elements, each read once, as its calls are numbered. */
+  private static final class Seen {
+    final FieldHouse x;
+    final int n;
+    final long[][][] table = new long[3][3][3];
+    final List<BigInteger[]> coordinates = new ArrayList<>();
+
+    Seen(FieldHouse x) {
+      this.x = x;
+      n = x.field(0);
+      for (int i = 0; i < n * n * n; i++) {
+        table[i / n / n][i / n % n][i % n] = x.table(i / n / n, i / n % n, i % n);
+      }
+    }
+
+    void read() {
+      BigInteger[] element = new BigInteger[n];
+      for (int k = 0; k < n; k++) {
+        element[k] = BigInteger.valueOf(x.coordinate(coordinates.size(), k));
+      }
+      coordinates.add(element);
+    }
+
+    /** Row j is the element times w j, so row 0 is the element. */
+    BigInteger[][] matrix(int i) {
+      BigInteger[][] m = new BigInteger[n][n];
+      for (int j = 0; j < n; j++) {
+        for (int k = 0; k < n; k++) {
+          m[j][k] = BigInteger.ZERO;
+          for (int s = 0; s < n; s++) {
+            m[j][k] = m[j][k].add(coordinates.get(i)[s].multiply(BigInteger.valueOf(table[s][j][k])));
+          }
+        }
+      }
+      return m;
+    }
+  }
+
+  private static void lawOfNorms(Seen seen, int i) {
+    FieldHouse x = seen.x;
+    BigInteger[][] m = seen.matrix(i);
+    due.is("norm " + i, x.norm(i, 0), determinant(m).longValueExact());
+    due.is("trace " + i, x.norm(i, 1), trace(m).longValueExact());
+    BigInteger middle = seen.n == 2 ? trace(m).negate()
+        : trace(m).multiply(trace(m)).subtract(trace(times(m, m))).shiftRight(1);
+    due.is("middle " + i, x.norm(i, 2), middle.longValueExact());
+    due.is("unit " + i, x.unit(i), unitBy(m));
   }
 
   private static int unitBy(BigInteger[][] m) {
@@ -219,55 +263,44 @@ public final class ElementTest {
     return 1;
   }
 
-  private static void lawOfMake(FieldHouse x, int n, int how, int i, int j) {
+  private static void lawOfMake(Seen seen, int how, int i, int j) {
     String call = "make(" + how + ", " + i + ", " + j + ")";
-    int before = x.count(0);
-    int got = x.make(how, i, j);
-    if (how == 3) {
-      if (got >= 0) {
-        BigInteger[][] back = times(matrix(x, got, n), matrix(x, j, n));
-        for (int k = 0; k < n; k++) {
-          due.is(call + " times the second", back[0][k].longValueExact(), x.coordinate(i, k));
-        }
+    BigInteger[] want = made(seen, how, i, j);
+    int code = want == null ? -3 : seen.coordinates.size();
+    for (int k = 0; want != null && k < seen.n; k++) {
+      code = want[k].intValueExact() > 300 && code != -4 ? -6 : code;
+      code = want[k].intValueExact() < -300 ? -4 : code;
+    }
+    due.is(call, seen.x.make(how, i, j), code);
+    if (code >= 0) {
+      seen.read();
+      for (int k = 0; k < seen.n; k++) {
+        due.is(call + " at " + k, seen.coordinates.get(code)[k].longValueExact(), want[k].longValueExact());
       }
-      return;
-    }
-    BigInteger[] want = new BigInteger[n];
-    int code = before;
-    for (int k = 0; k < n; k++) {
-      BigInteger a = BigInteger.valueOf(x.coordinate(i, k));
-      BigInteger b = BigInteger.valueOf(x.coordinate(j, k));
-      want[k] = how == 0 ? a.add(b) : how == 1 ? a.subtract(b) : times(matrix(x, i, n), matrix(x, j, n))[0][k];
-    }
-    for (int k = 0; k < n; k++) {
-      if (want[k].intValueExact() > 300) {
-        code = -6;
-      }
-    }
-    for (int k = 0; k < n; k++) {
-      if (want[k].intValueExact() < -300) {
-        code = -4;
-      }
-    }
-    due.is(call, got, code);
-    for (int k = 0; k < n && got >= 0; k++) {
-      due.is(call + " at " + k, x.coordinate(got, k), want[k].intValueExact());
     }
   }
 
-  /** Row j is the element times w j, so row 0 is the element. */
-  private static BigInteger[][] matrix(FieldHouse x, int i, int n) {
-    BigInteger[][] m = new BigInteger[n][n];
-    for (int j = 0; j < n; j++) {
-      for (int k = 0; k < n; k++) {
-        long sum = 0;
-        for (int s = 0; s < n; s++) {
-          sum += (long) x.coordinate(i, s) * x.table(s, j, k);
+  /** The coordinates that are due, or null if there is no such whole number. */
+  private static BigInteger[] made(Seen seen, int how, int i, int j) {
+    if (how == 2) {
+      return times(seen.matrix(i), seen.matrix(j))[0];
+    }
+    BigInteger[] made = new BigInteger[seen.n];
+    BigInteger below = determinant(seen.matrix(j));
+    for (int k = 0; k < seen.n; k++) {
+      BigInteger a = seen.coordinates.get(i)[k];
+      BigInteger b = seen.coordinates.get(j)[k];
+      made[k] = how == 0 ? a.add(b) : a.subtract(b);
+      if (how == 3) {
+        BigInteger[][] replaced = seen.matrix(j);
+        replaced[k] = seen.coordinates.get(i);
+        if (below.signum() == 0 || determinant(replaced).mod(below.abs()).signum() != 0) {
+          return null;
         }
-        m[j][k] = BigInteger.valueOf(sum);
+        made[k] = determinant(replaced).divide(below);
       }
     }
-    return m;
+    return made;
   }
 
   private static BigInteger[][] times(BigInteger[][] a, BigInteger[][] b) {

@@ -64,8 +64,8 @@ public final class FieldTest {
         }
       }
     }
-    FieldHouse x = new FieldHouse();
     for (int a = -20; a <= 20; a++) {
+      FieldHouse x = new FieldHouse();
       for (int b = -200; b <= 200; b++) {
         due.is("square(" + a + ", " + b + ")", x.square(a, b), square[a + 20][b + 200] ? -3 : 1);
       }
@@ -84,6 +84,7 @@ public final class FieldTest {
       }
     }
     for (int a = -3; a <= 3; a++) {
+      FieldHouse x = new FieldHouse();
       for (int b = -9; b <= 9; b++) {
         for (int c = -9; c <= 9; c++) {
           due.is("cube(" + a + ", " + b + ", " + c + ")", x.cube(a, b, c), cube[a + 3][b + 9][c + 9] ? -3 : 1);
@@ -237,7 +238,11 @@ public final class FieldTest {
     for (int i = 0; i < 27; i++) {
       table[i / 9][i / 3 % 3][i % 3] = x.table(i / 9, i / 3 % 3, i % 3);
     }
-    tableFitsTheField(field, x, table, new long[] {c, b, a});
+    long[][] basis = new long[3][4];
+    for (int i = 0; i < 12; i++) {
+      basis[i / 4][i % 4] = x.basis(i / 4, i % 4);
+    }
+    tableFitsTheField(field, basis, table, new long[] {c, b, a});
     for (int q = 2; (long) q * q <= Math.abs(x.disc(0)); q++) {
       if (isPrime(q) && x.disc(0) % ((long) q * q) == 0) {
         due.holds(field + "nothing whole between, by " + q, !wholeBetween(table, q));
@@ -246,17 +251,17 @@ public final class FieldTest {
   }
 
   /** Each product told by the basis is the product of fractions modulo the polynomial. */
-  private static void tableFitsTheField(String field, FieldHouse x, long[][][] table, long[] poly) {
+  private static void tableFitsTheField(String field, long[][] basis, long[][][] table, long[] poly) {
     long below = 1;
     for (int i = 0; i < 3; i++) {
-      below *= x.basis(i, 3);
+      below *= basis[i][3];
     }
     for (int i = 0; i < 3; i++) {
       for (int j = 0; j < 3; j++) {
         long[] wide = new long[5];
         for (int s = 0; s < 3; s++) {
           for (int t = 0; t < 3; t++) {
-            wide[s + t] += x.basis(i, s) * (below / x.basis(i, 3)) * x.basis(j, t) * (below / x.basis(j, 3));
+            wide[s + t] += basis[i][s] * (below / basis[i][3]) * basis[j][t] * (below / basis[j][3]);
           }
         }
         for (int t = 4; t >= 3; t--) {
@@ -267,7 +272,7 @@ public final class FieldTest {
         for (int s = 0; s < 3; s++) {
           long sum = 0;
           for (int m = 0; m < 3; m++) {
-            sum += table[i][j][m] * x.basis(m, s) * (below / x.basis(m, 3)) * below;
+            sum += table[i][j][m] * basis[m][s] * (below / basis[m][3]) * below;
           }
           due.is(field + "w" + i + " w" + j + " at r to the " + s, sum, wide[s]);
         }

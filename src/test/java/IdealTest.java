@@ -3,6 +3,8 @@ import java.util.Random;
 /** Promises 13 to 18: ideal, join, row, idealOf, in, divides. */
 public final class IdealTest {
   private static final Due due = new Due();
+  private static final long[][][] table = new long[3][3][3];
+  private static int n;
 
   public static void main(String[] args) {
     ordinary();
@@ -11,7 +13,7 @@ public final class IdealTest {
     refusalsOfQuestions();
     fullHouse();
     primeOrNot();
-    for (int seed = 0; seed < 400; seed++) {
+    for (int seed = 0; seed < 1000; seed++) {
       laws(seed);
     }
     due.end();
@@ -195,87 +197,93 @@ public final class IdealTest {
       made = seed % 3 != 0 ? x.cube(random.nextInt(7) - 3, random.nextInt(19) - 9, random.nextInt(19) - 9)
           : x.square(random.nextInt(41) - 20, random.nextInt(401) - 200);
     }
-    int n = x.field(0);
-    x.element(1, 0, 0);
-    x.element(0, 1, 0);
-    x.element(0, 0, n == 3 ? 1 : 0);
-    for (int i = 0; i < 5; i++) {
+    n = x.field(0);
+    for (int i = 0; i < n * n * n; i++) {
+      table[i / n / n][i / n % n][i % n] = x.table(i / n / n, i / n % n, i % n);
+    }
+    for (int i = 0; i < 4; i++) {
       int element = x.element(random.nextInt(13) - 6, random.nextInt(13) - 6, n == 3 ? random.nextInt(13) - 6 : 0);
       int m = (int) Math.min(1000000, Math.max(1, Math.abs(x.norm(element, 0))));
-      lawOfIdeal(x, n, x.ideal(i < 3 ? m : 1 + random.nextInt(60), element), element);
+      lawOfIdeal(x, x.ideal(i < 3 ? m : 1 + random.nextInt(60), element), element);
     }
-    for (int t = 0; t < 10 && x.count(1) > 0; t++) {
+    for (int t = 0; t < 4 && x.count(1) > 0; t++) {
       lawsOfTwo(x, random.nextInt(x.count(1)), random.nextInt(x.count(1)));
     }
   }
 
-  private static void lawOfIdeal(FieldHouse x, int n, int ideal, int element) {
+  private static int[][] rows(FieldHouse x, int i) {
+    int[][] rows = new int[n][n];
+    for (int k = 0; k < n * n && i >= 0; k++) {
+      rows[k / n][k % n] = x.row(i, k / n, k % n);
+    }
+    return rows;
+  }
+
+  private static void lawOfIdeal(FieldHouse x, int ideal, int element) {
     if (ideal < 0) {
       return;
     }
     due.is("an ideal has its element", x.in(ideal, element), 1);
+    int[][] rows = rows(x, ideal);
     long norm = 1;
     for (int i = 0; i < n; i++) {
-      norm *= x.row(ideal, i, i);
-      due.holds("above 0", x.row(ideal, i, i) > 0);
+      norm *= rows[i][i];
+      due.holds("above 0", rows[i][i] > 0);
       for (int j = 0; j < n; j++) {
-        int there = x.row(ideal, i, j);
-        due.holds("row " + i + " place " + j, j > i ? there == 0 : j == i || there >= 0 && there < x.row(ideal, j, j));
+        int there = rows[i][j];
+        due.holds("row " + i + " place " + j, j > i ? there == 0 : j == i || there >= 0 && there < rows[j][j]);
       }
       for (int j = 1; j < n; j++) {
-        due.holds("an ideal has the product of row " + i + " with w" + j, hasProduct(x, n, ideal, i, j));
+        due.holds("an ideal has the product of row " + i + " with w" + j, hasProduct(rows, i, j));
       }
     }
     due.is("norm", x.idealOf(ideal, 0), norm);
-    due.is("least number", x.idealOf(ideal, 1), x.row(ideal, 0, 0));
+    due.is("least number", x.idealOf(ideal, 1), rows[0][0]);
   }
 
-  private static boolean hasProduct(FieldHouse x, int n, int ideal, int i, int j) {
+  private static boolean hasProduct(int[][] rows, int i, int j) {
     long[] v = new long[n];
     for (int s = 0; s < n; s++) {
       for (int k = 0; k < n; k++) {
-        v[k] += (long) x.row(ideal, i, s) * x.table(s, j, k);
+        v[k] += rows[i][s] * table[s][j][k];
       }
     }
     for (int place = n - 1; place >= 0; place--) {
-      long top = x.row(ideal, place, place);
-      if (v[place] % top != 0) {
+      if (v[place] % rows[place][place] != 0) {
         return false;
       }
-      long many = v[place] / top;
+      long many = v[place] / rows[place][place];
       for (int k = 0; k <= place; k++) {
-        v[k] -= many * x.row(ideal, place, k);
+        v[k] -= many * rows[place][k];
       }
     }
     return true;
   }
 
   private static void lawsOfTwo(FieldHouse x, int i, int j) {
+    int[][] first = rows(x, i);
+    int[][] second = rows(x, j);
     int sum = x.join(0, i, j);
     due.is("the sum divides the first", x.divides(sum, i), 1);
     due.is("the sum divides the second", x.divides(sum, j), 1);
-    due.is("i and j divide each other only if same", x.divides(i, j) * x.divides(j, i), same(x, i, j) ? 1 : 0);
+    due.is("i and j divide each other only if same", x.divides(i, j) * x.divides(j, i), same(first, second) ? 1 : 0);
     int product = x.join(1, i, j);
     long norm = (long) x.idealOf(i, 0) * x.idealOf(j, 0);
     due.holds("a product has a place just if its norm is small", (norm <= 1000000) == (product >= 0));
     int part = x.join(2, i, sum);
     due.is("quotient times divisor: norm", (long) x.idealOf(part, 0) * x.idealOf(sum, 0), x.idealOf(i, 0));
-    due.holds("quotient times divisor", same(x, x.join(1, part, sum), i));
+    due.holds("quotient times divisor", same(rows(x, x.join(1, part, sum)), first));
     if (product >= 0) {
       due.is("norm of the product", x.idealOf(product, 0), norm);
-      due.holds("product by the second", same(x, x.join(2, product, j), i));
-      due.holds("product by the first", same(x, x.join(2, product, i), j));
+      due.holds("product by the second", same(rows(x, x.join(2, product, j)), first));
+      due.holds("product by the first", same(rows(x, x.join(2, product, i)), second));
       due.is("quotient the other way", x.join(2, i, product) >= 0 ? 1 : 0, x.idealOf(j, 0) == 1 ? 1 : 0);
     }
   }
 
-  private static boolean same(FieldHouse x, int i, int j) {
-    if (i < 0 || j < 0) {
-      return false;
-    }
-    int n = x.field(0);
+  private static boolean same(int[][] rows, int[][] others) {
     for (int k = 0; k < n * n; k++) {
-      if (x.row(i, k / n, k % n) != x.row(j, k / n, k % n)) {
+      if (rows[k / n][k % n] != others[k / n][k % n]) {
         return false;
       }
     }
