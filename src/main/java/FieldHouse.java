@@ -655,7 +655,7 @@ public final class FieldHouse {
     }
 
     private boolean findThirdBy(long d, long e) {
-      for (long l = 0; l * d < e; l++) {
+      for (long l = 0; l < e && l * d < e; l++) {
         for (long k = 0; k < e; k++) {
           if (isWhole(k, l, 1, e)) {
             upper[6] = k;
