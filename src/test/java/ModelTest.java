@@ -122,7 +122,7 @@ public final class ModelTest {
     for (int i = 0; i < n * n; i++) {
       rows[i / n][i % n] = ask("row", ideal, i / n, i % n);
     }
-    BigInteger[][] told = new java.math.BigInteger[n][];
+    BigInteger[][] told = new BigInteger[n][];
     for (int i = 0; i < n; i++) {
       told[i] = ModelLattice.vector(rows[i]);
     }
